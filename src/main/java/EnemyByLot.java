@@ -4,7 +4,7 @@ import java.util.Arrays;
 public final class EnemyByLot {
     public static final int BAD = -1, FULL = -2, FINDING = -3, STATE = -4, SPENT = -6, NONE = -9;
 
-    private static final int FINE = 0, MISSING = -1;
+    private static final int ALLOWED = 0, MISSING = -1;
     private static final int NOTHING = 1, BEYOND = 2, UNLIKE = 3, NOUGHT = 4, SIZE = 5;
     private static final int ZEALOT = 1, SAINT = 2, HEDGER = 3, SWORN = 4, LENIENT = 5;
     private static final int RESTS = 0, DOES = 1, THWARTS = 2;
@@ -433,12 +433,12 @@ public final class EnemyByLot {
             return victim == MAP_NOBODY ? NONE : victim;
         }
 
-        int victimsOf(int i, int set) {
+        /** The VICTIMS of a set by a MAP in which each PERSON has one. */
+        private int victimsOf(int map, int set) {
             int victims = 0;
             for (int p = 0; p < size; p++) {
-                int victim = isIn(set, p) ? victimIn(i, p) : NONE;
-                if (victim >= 0) {
-                    victims |= 1 << victim;
+                if ((set >> p & 1) == 1) {
+                    victims |= 1 << (map >> MAP_BITS * p & MAP_NOBODY);
                 }
             }
             return victims;
@@ -448,7 +448,7 @@ public final class EnemyByLot {
         void retain(int thwarted, int lost) {
             int stay = 0;
             for (int i = 0; i < number && i < MOST_MAPS; i++) {
-                if (victimsOf(i, thwarted) == lost) {
+                if (victimsOf(found[i], thwarted) == lost) {
                     found[stay] = found[i];
                     stay++;
                 }
@@ -480,8 +480,8 @@ public final class EnemyByLot {
         int mostAlike(int set) {
             Arrays.fill(alike, 0);
             int most = 0;
-            for (int i = 0; i < number; i++) {
-                int victims = victimsOf(i, set);
+            for (int i = 0; i < number && i < MOST_MAPS; i++) {
+                int victims = victimsOf(found[i], set);
                 if (victims >= 0 && victims < SETS) {
                     alike[victims]++;
                     most = Math.max(most, alike[victims]);
@@ -516,135 +516,151 @@ public final class EnemyByLot {
         for (int k = 0; k < SHELVES; k++) {
             shelves[k] = new Town();
         }
+        now.begin(folk);
         below = 1;
     }
 
     // ---- 1 rows, texts, towns
 
     public int row(int r, int n) {
-        if (!isRow(r) || n > ROW_PLACES) {
+        Line row = lineAt(rows, r);
+        if (row == null || n > ROW_PLACES) {
             return BAD;
         }
         if (n < 0) {
             return find(SIZE);
         }
-        rows[r].renew(n, 0);
+        row.renew(n, 0);
         return n;
     }
 
     public int lay(int r, int i, int v) {
-        int refusal = refusePlace(r, i);
-        if (refusal != FINE || !isRow(r)) {
+        Line row = lineAt(rows, r);
+        if (row == null) {
+            return BAD;
+        }
+        int refusal = refusePlace(row, i);
+        if (refusal != ALLOWED) {
             return refusal;
         }
-        told = rows[r].get(i);
-        rows[r].set(i, v);
+        told = row.get(i);
+        row.set(i, v);
         return 1;
     }
 
     public int at(int r, int i) {
-        int refusal = refusePlace(r, i);
-        if (refusal != FINE || !isRow(r)) {
+        Line row = lineAt(rows, r);
+        if (row == null) {
+            return BAD;
+        }
+        int refusal = refusePlace(row, i);
+        if (refusal != ALLOWED) {
             return refusal;
         }
-        told = rows[r].get(i);
+        told = row.get(i);
         return 1;
     }
 
     public int tear(int r) {
-        if (!isRow(r)) {
+        Line row = lineAt(rows, r);
+        if (row == null) {
             return BAD;
         }
-        if (rows[r].isMissing()) {
+        if (row.isMissing()) {
             return find(NOTHING);
         }
-        rows[r].discard();
+        row.discard();
         return 1;
     }
 
     public int copy(int r, int i, int to, int j, int n) {
-        if (!isRow(r) || !isRow(to)) {
+        Line from = lineAt(rows, r);
+        Line into = lineAt(rows, to);
+        if (from == null || into == null) {
             return BAD;
         }
         if (n < 0) {
             return find(SIZE);
         }
-        if (rows[r].isMissing() || rows[to].isMissing()) {
+        if (from.isMissing() || into.isMissing()) {
             return find(NOTHING);
         }
-        if (!rows[r].holdsSpan(i, n) || !rows[to].holdsSpan(j, n)) {
+        if (!from.holdsSpan(i, n) || !into.holdsSpan(j, n)) {
             return find(BEYOND);
         }
-        rows[to].take(rows[r], i, j, n);
+        into.take(from, i, j, n);
         return 1;
     }
 
     public int mean(int r) {
-        if (!isRow(r)) {
+        Line row = lineAt(rows, r);
+        if (row == null) {
             return BAD;
         }
-        if (rows[r].isMissing()) {
+        if (row.isMissing()) {
             return find(NOTHING);
         }
-        if (rows[r].size == 0) {
+        if (row.size == 0) {
             return find(NOUGHT);
         }
-        told = rows[r].meanCut();
+        told = row.meanCut();
         return 1;
     }
 
     public int text(int t, int n) {
-        if (!isText(t) || n > TEXT_PLACES) {
+        Line text = lineAt(texts, t);
+        if (text == null || n > TEXT_PLACES) {
             return BAD;
         }
         if (n < 0) {
             return find(SIZE);
         }
-        texts[t].renew(n, BLANK);
+        text.renew(n, BLANK);
         return n;
     }
 
     public int put(int t, int i, int v) {
-        if (!isText(t)) {
+        Line text = lineAt(texts, t);
+        if (text == null) {
             return BAD;
         }
-        if (texts[t].isMissing()) {
-            return find(NOTHING);
+        int refusal = refusePlace(text, i);
+        if (refusal != ALLOWED) {
+            return refusal;
         }
-        if (!texts[t].holds(i)) {
-            return find(BEYOND);
-        }
-        int was = texts[t].get(i);
-        texts[t].set(i, (byte) v);
+        int was = text.get(i);
+        text.set(i, (byte) v);
         return was + 1000;
     }
 
     public int fault(int t) {
-        if (!isText(t)) {
+        Line text = lineAt(texts, t);
+        if (text == null) {
             return BAD;
         }
-        if (texts[t].isMissing()) {
+        if (text.isMissing()) {
             return find(NOTHING);
         }
-        return reader.read(texts[t], draft);
+        return reader.read(text, draft);
     }
 
     public int town(int t) {
-        if (!isText(t)) {
+        Line text = lineAt(texts, t);
+        if (text == null) {
             return BAD;
         }
-        if (texts[t].isMissing()) {
+        if (text.isMissing()) {
             return find(NOTHING);
         }
-        if (reader.read(texts[t], draft) != NONE) {
+        if (reader.read(text, draft) != NONE) {
             return STATE;
         }
         Folk gone = folk;
         folk = draft;
         draft = gone;
         now.begin(folk);
-        for (int k = 0; k < SHELVES; k++) {
-            shelves[k].kept = false;
+        for (Town shelf : shelves) {
+            shelf.kept = false;
         }
         return folk.size;
     }
@@ -685,13 +701,13 @@ public final class EnemyByLot {
     // ---- 2 turns
 
     public int week(int r) {
-        int refusal = refuseRow(r);
-        if (refusal != FINE || !isRow(r)) {
-            return refusal;
+        Line row = lineAt(rows, r);
+        if (row == null) {
+            return BAD;
         }
-        Line row = rows[r];
-        if (row.size != folk.size) {
-            return find(SIZE);
+        int refusal = refuseFolkRow(row);
+        if (refusal != ALLOWED) {
+            return refusal;
         }
         for (int p = 0; p < folk.size; p++) {
             if (!isAct(p, row.get(p))) {
@@ -729,25 +745,27 @@ public final class EnemyByLot {
     }
 
     public int keep(int k) {
-        if (!isShelf(k)) {
+        Town shelf = shelfAt(k);
+        if (shelf == null) {
             return BAD;
         }
         if (folk.size == 0) {
             return STATE;
         }
-        shelves[k].take(now);
-        shelves[k].kept = true;
+        shelf.take(now);
+        shelf.kept = true;
         return now.turns;
     }
 
     public int on(int k) {
-        if (!isShelf(k)) {
+        Town shelf = shelfAt(k);
+        if (shelf == null) {
             return BAD;
         }
-        if (!shelves[k].kept) {
+        if (!shelf.kept) {
             return find(NOTHING);
         }
-        now.take(shelves[k]);
+        now.take(shelf);
         return now.turns;
     }
 
@@ -867,7 +885,8 @@ public final class EnemyByLot {
     }
 
     public int mildest(int r) {
-        if (!isRow(r)) {
+        Line row = lineAt(rows, r);
+        if (row == null) {
             return BAD;
         }
         if (folk.size == 0) {
@@ -883,27 +902,28 @@ public final class EnemyByLot {
                 best = i;
             }
         }
-        rows[r].renew(folk.size, NONE);
+        row.renew(folk.size, NONE);
         for (int p = 0; p < folk.size; p++) {
-            rows[r].set(p, atlas.victimIn(best, p));
+            row.set(p, atlas.victimIn(best, p));
         }
         return least;
     }
 
     public int none(int r) {
-        int refusal = refuseRow(r);
-        if (refusal != FINE || !isRow(r)) {
+        Line row = lineAt(rows, r);
+        if (row == null) {
+            return BAD;
+        }
+        int refusal = refuseFolkRow(row);
+        if (refusal != ALLOWED) {
             return refusal;
         }
-        if (rows[r].size != folk.size) {
-            return find(SIZE);
-        }
-        if (!isMapOfNow(rows[r])) {
+        if (!isMapOfNow(row)) {
             return find(UNLIKE);
         }
         for (int p = 0; p < folk.size; p++) {
-            int victim = rows[r].get(p);
-            if (folk.has(victim) && folk.against(p, victim) > lossOf(victim)) {
+            int victim = row.get(p);
+            if (victim != NONE && folk.against(p, victim) > lossOf(victim)) {
                 return 0;
             }
         }
@@ -922,31 +942,36 @@ public final class EnemyByLot {
 
     public int odds(int p, int q) {
         int refusal = refuseDraw(p, q);
-        return refusal != FINE ? refusal : tell(atlas.countPair(p, q), atlas.number);
+        return refusal != ALLOWED ? refusal : tell(atlas.countPair(p, q), atlas.number);
     }
 
     public int both(int p, int q) {
         int refusal = refuseDraw(p, q);
-        return refusal != FINE ? refusal : tell(atlas.countMutual(p, q), atlas.number);
+        return refusal != ALLOWED ? refusal : tell(atlas.countMutual(p, q), atlas.number);
     }
 
     // ---- 7 who is whose, by rows
 
     public int fits(int r) {
-        int refusal = refuseWeeks(r);
-        if (refusal != FINE) {
+        Line row = lineAt(rows, r);
+        if (row == null) {
+            return BAD;
+        }
+        int refusal = refuseWeeks(row);
+        if (refusal != ALLOWED) {
             return refusal;
         }
-        seekFits(r);
+        seekFits(row);
         return tell(atlas.number, 1);
     }
 
     public int sure(int p, int r) {
-        if (!folk.has(p)) {
+        Line row = lineAt(rows, r);
+        if (row == null || !folk.has(p)) {
             return BAD;
         }
-        int refusal = refuseFits(r);
-        if (refusal != FINE) {
+        int refusal = refuseFits(row);
+        if (refusal != ALLOWED) {
             return refusal;
         }
         int victim = atlas.victimIn(0, p);
@@ -954,13 +979,17 @@ public final class EnemyByLot {
     }
 
     public int ask(int r) {
-        int refusal = refuseFits(r);
-        if (refusal != FINE) {
+        Line row = lineAt(rows, r);
+        if (row == null) {
+            return BAD;
+        }
+        int refusal = refuseFits(row);
+        if (refusal != ALLOWED) {
             return refusal;
         }
         int best = 0;
         int fewest = atlas.mostAlike(0);
-        for (int set = 1; set <= folk.everyone() && set < SETS; set++) {
+        for (int set = 1; set <= folk.everyone(); set++) {
             int most = atlas.mostAlike(set);
             if (most < fewest) {
                 fewest = most;
@@ -1012,7 +1041,7 @@ public final class EnemyByLot {
             case 0:
                 return folk.size;
             case 1:
-                return folk.size == 0 ? 0 : Integer.bitCount(now.victimSet());
+                return Integer.bitCount(now.victimSet());
             case 2:
                 return folk.loves;
             case 3:
@@ -1024,9 +1053,9 @@ public final class EnemyByLot {
             case 6:
                 return zealots();
             case 7:
-                return present(rows, ROWS);
+                return present(rows);
             case 8:
-                return present(texts, TEXTS);
+                return present(texts);
             case 9:
                 return keptTowns();
             default:
@@ -1052,14 +1081,14 @@ public final class EnemyByLot {
                 h = 31 * h + trait(p, what);
             }
         }
-        for (int k = 0; k < SHELVES; k++) {
-            h = 31 * h + (shelves[k].kept ? shelves[k].turns : MISSING);
+        for (Town shelf : shelves) {
+            h = 31 * h + (shelf.kept ? shelf.turns : MISSING);
         }
-        for (int r = 0; r < ROWS; r++) {
-            h = rows[r].mixInto(h);
+        for (Line row : rows) {
+            h = row.mixInto(h);
         }
-        for (int t = 0; t < TEXTS; t++) {
-            h = texts[t].mixInto(h);
+        for (Line text : texts) {
+            h = text.mixInto(h);
         }
         return h;
     }
@@ -1074,24 +1103,35 @@ public final class EnemyByLot {
         return FINDING;
     }
 
-    private int refusePlace(int r, int i) {
-        if (!isRow(r)) {
-            return BAD;
-        }
-        if (rows[r].isMissing()) {
-            return find(NOTHING);
-        }
-        return rows[r].holds(i) ? FINE : find(BEYOND);
+    private static Line lineAt(Line[] lines, int i) {
+        return i >= 0 && i < lines.length ? lines[i] : null;
     }
 
-    private int refuseRow(int r) {
-        if (!isRow(r)) {
-            return BAD;
+    private Town shelfAt(int k) {
+        return k >= 0 && k < shelves.length ? shelves[k] : null;
+    }
+
+    private int refusePlace(Line line, int i) {
+        if (line.isMissing()) {
+            return find(NOTHING);
         }
+        return line.holds(i) ? ALLOWED : find(BEYOND);
+    }
+
+    private int refuseRow(Line row) {
         if (folk.size == 0) {
             return STATE;
         }
-        return rows[r].isMissing() ? find(NOTHING) : FINE;
+        return row.isMissing() ? find(NOTHING) : ALLOWED;
+    }
+
+    /** A ROW that is to have a place for each PERSON. */
+    private int refuseFolkRow(Line row) {
+        int refusal = refuseRow(row);
+        if (refusal != ALLOWED) {
+            return refusal;
+        }
+        return row.size == folk.size ? ALLOWED : find(SIZE);
     }
 
     /** If it is not refused, all MAPS that can be drawn are sought. */
@@ -1100,15 +1140,15 @@ public final class EnemyByLot {
             return BAD;
         }
         atlas.seek(folk, folk.everyone(), false);
-        return atlas.number == 0 ? find(NOUGHT) : FINE;
+        return atlas.number == 0 ? find(NOUGHT) : ALLOWED;
     }
 
-    private int refuseWeeks(int r) {
-        int refusal = refuseRow(r);
-        if (refusal != FINE || !isRow(r)) {
+    /** A ROW that is to have pairs of sets. */
+    private int refuseWeeks(Line row) {
+        int refusal = refuseRow(row);
+        if (refusal != ALLOWED) {
             return refusal;
         }
-        Line row = rows[r];
         if (row.size % 2 != 0) {
             return find(SIZE);
         }
@@ -1117,33 +1157,21 @@ public final class EnemyByLot {
                 return find(UNLIKE);
             }
         }
-        return FINE;
+        return ALLOWED;
     }
 
     /** If it is not refused, all MAPS that fit are sought. */
-    private int refuseFits(int r) {
-        int refusal = refuseWeeks(r);
-        if (refusal != FINE) {
+    private int refuseFits(Line row) {
+        int refusal = refuseWeeks(row);
+        if (refusal != ALLOWED) {
             return refusal;
         }
-        seekFits(r);
-        return atlas.number == 0 ? find(NOUGHT) : FINE;
+        seekFits(row);
+        return atlas.number == 0 ? find(NOUGHT) : ALLOWED;
     }
 
     private static boolean isIn(int set, int p) {
         return p >= 0 && p < MOST_PERSONS && (set >> p & 1) == 1;
-    }
-
-    private static boolean isRow(int r) {
-        return r >= 0 && r < ROWS;
-    }
-
-    private static boolean isText(int t) {
-        return t >= 0 && t < TEXTS;
-    }
-
-    private static boolean isShelf(int k) {
-        return k >= 0 && k < SHELVES;
     }
 
     private boolean isPair(int p, int q) {
@@ -1385,10 +1413,10 @@ public final class EnemyByLot {
     // ---- who is whose
 
     /** Call it only with a ROW that was looked at. */
-    private void seekFits(int r) {
+    private void seekFits(Line row) {
         atlas.seek(folk, folk.everyone(), true);
-        for (int i = 0; isRow(r) && i + 1 < rows[r].size; i += 2) {
-            atlas.retain(rows[r].get(i), rows[r].get(i + 1));
+        for (int i = 0; i + 1 < row.size; i += 2) {
+            atlas.retain(row.get(i), row.get(i + 1));
         }
     }
 
@@ -1412,10 +1440,10 @@ public final class EnemyByLot {
         return zealots;
     }
 
-    private static int present(Line[] lines, int number) {
+    private static int present(Line[] lines) {
         int present = 0;
-        for (int i = 0; i < number && i < lines.length; i++) {
-            if (!lines[i].isMissing()) {
+        for (Line line : lines) {
+            if (!line.isMissing()) {
                 present++;
             }
         }
@@ -1424,8 +1452,8 @@ public final class EnemyByLot {
 
     private int keptTowns() {
         int kept = 0;
-        for (int k = 0; k < SHELVES; k++) {
-            if (shelves[k].kept) {
+        for (Town shelf : shelves) {
+            if (shelf.kept) {
                 kept++;
             }
         }
