@@ -174,6 +174,9 @@ public final class PromiseTest {
         lay(x, 0, 3, 4, 4);
         due("mean(0)", x.mean(0), 1);
         due("asked()", x.asked(), 3);
+        lay(x, 0, 8);
+        x.mean(0);
+        due("asked() of one", x.asked(), 8);
         lay(x, 0, -3, -4, -4);
         x.mean(0);
         due("asked(), cut", x.asked(), -3);
@@ -238,6 +241,7 @@ public final class PromiseTest {
         due("LOVE of nobody", faultOf("p11-p11-o21"), 9);
         due("LOVE of nobody, second", faultOf("p11-p11-o12"), 10);
         due("LOVE of itself", faultOf("p11-p11-o11"), 10);
+        due("LOVE, turned", faultOf("p11-p11-o10"), NONE);
         due("LOVE told already", faultOf("p11-p11-o01o01"), 13);
         due("LOVE told already, turned", faultOf("p11-p11-o01 o10"), 14);
         due("LOVE's end too early", faultOf("p11-p11-o0"), 10);
@@ -250,6 +254,7 @@ public final class PromiseTest {
         due("of one far away", faultOf("p119p11-"), 3);
         due("two of one", faultOf("p112p112p11-"), 7);
         due("foes behind all others", faultOf("p110p11-o02"), 10);
+        due("of one far away, behind all others", faultOf("p119p11-x"), 8);
         due("the first such", faultOf("p112 p113 p112"), 8);
         EnemyByLot x = new EnemyByLot();
         x.text(0, 1);
@@ -612,6 +617,9 @@ public final class PromiseTest {
         week(x, 1, 0);
         due("REACHED", x.ways(0, 0), 0);
         due("asked()", x.asked(), NONE);
+        x = with("p111 p110");
+        due("REACHED, then it stays so", x.ways(1, 2), 1);
+        due("asked()", x.asked(), 2);
         x = with("p21- p11-");
         due("without a FOE, too early", x.ways(0, 1), 2);
         due("asked()", x.asked(), 0);
@@ -628,6 +636,12 @@ public final class PromiseTest {
         x = with("p132 p12- p11-");
         due("one that is FREE has less", x.wishes(), 1);
         due("asked()", x.asked(), 1);
+        x = with("p11- p132 p11-");
+        due("the lesser is FREE", x.wishes(), 1);
+        due("asked()", x.asked(), 1);
+        x = with("p122 p113 p11- p11- o12");
+        due("one much better, one worse: only with 3", x.wishes(), 1);
+        due("asked()", x.asked(), 3);
         x = with("p112 p12- p11-");
         due("one that is FREE has more", x.wishes(), 0);
         due("asked()", x.asked(), NONE);
@@ -703,6 +717,9 @@ public final class PromiseTest {
         x = with("p212 p23- p21-");
         lay(x, 3, NONE, 2, NONE);
         due("worse", x.none(3), 0);
+        x = with("p23- p212 p21-");
+        lay(x, 3, 2, NONE, NONE);
+        due("worse by the first", x.none(3), 0);
     }
 
     private static void maps() {
