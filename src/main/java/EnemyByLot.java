@@ -399,22 +399,24 @@ public final class EnemyByLot {
             for (int p = 0; p < MOST_PERSONS; p++) {
                 barred[p] = 1 << p | (loveAllowed ? 0 : folk.lovedBy(p));
             }
-            draw(0, victims, 0);
+            draw(this, 0, victims, 0);
         }
 
-        private void draw(int p, int left, int map) {
+        /** A VICTIM for p and those behind it, from those that are left; p is the depth, too. */
+        private static void draw(Atlas atlas, int p, int left, int map) {
+            int size = atlas.size;
             if (p < 0 || p >= size || p >= MOST_PERSONS) {
-                add(left, map);
+                atlas.add(left, map);
                 return;
             }
-            int open = left & ~barred[p];
+            int open = left & ~atlas.barred[p];
             for (int victim = 0; victim < size; victim++) {
                 if (isIn(open, victim)) {
-                    draw(p + 1, left & ~(1 << victim), map | victim << MAP_BITS * p);
+                    draw(atlas, p + 1, left & ~(1 << victim), map | victim << MAP_BITS * p);
                 }
             }
             if (size - p > Integer.bitCount(left)) {
-                draw(p + 1, left, map | MAP_NOBODY << MAP_BITS * p);
+                draw(atlas, p + 1, left, map | MAP_NOBODY << MAP_BITS * p);
             }
         }
 
