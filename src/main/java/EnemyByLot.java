@@ -191,11 +191,16 @@ public final class EnemyByLot {
         /** The FAULT's place, or NONE; then the folk is as told. */
         int read(Line text, Folk folk) {
             folk.clear();
-            for (int i = 0; i < text.size; i += widthOf(text.get(i))) {
+            int next = 0;
+            for (int i = 0; i < text.size; i++) {
+                if (i < next) {
+                    continue;
+                }
                 int fault = readItem(text, i, folk);
                 if (fault != NONE) {
                     return fault;
                 }
+                next = i + widthOf(text.get(i));
             }
             return folk.size < 2 ? text.size : faultOfFoes(folk);
         }
