@@ -755,6 +755,8 @@ public final class ModelTest {
 
     private static final int[] WILD = {Integer.MIN_VALUE, -10, -9, -2, -1, 41, 61, 64, 1000, Integer.MAX_VALUE - 1, Integer.MAX_VALUE};
 
+    private static final int RUNS = 1500, STEPS = 150;
+
     private final Random random;
     private EnemyByLot x = new EnemyByLot();
     private Model m = new Model();
@@ -961,24 +963,32 @@ public final class ModelTest {
         }
     }
 
-    private boolean run() {
-        if (random.nextInt(8) != 0 && !writeTown()) return false;
-        for (int i = 0; i < 150; i++) {
-            if (!step()) return false;
+    private boolean begin() {
+        return random.nextInt(8) == 0 || writeTown();
+    }
+
+    private void report(long seed) {
+        System.out.println("run " + seed + ":");
+        told.forEach(call -> System.out.println("  " + call));
+        System.exit(1);
+    }
+
+    /** Two objects, call by call in turn: what is told to one says nothing to the other. */
+    private static void runTwo(long seed) {
+        ModelTest first = new ModelTest(seed);
+        ModelTest second = new ModelTest(seed + 1);
+        if (!first.begin()) first.report(seed);
+        if (!second.begin()) second.report(seed + 1);
+        for (int i = 0; i < STEPS; i++) {
+            if (!first.step()) first.report(seed);
+            if (!second.step()) second.report(seed + 1);
         }
-        return true;
     }
 
     public static void main(String[] args) {
-        int runs = 1500;
-        for (int seed = 1; seed <= runs; seed++) {
-            ModelTest test = new ModelTest(seed);
-            if (!test.run()) {
-                System.out.println("run " + seed + ":");
-                test.told.forEach(call -> System.out.println("  " + call));
-                System.exit(1);
-            }
+        for (int seed = 1; seed < RUNS; seed += 2) {
+            runTwo(seed);
         }
-        System.out.println(runs + " runs are as the model's");
+        System.out.println(RUNS + " runs, two at a time, are as the model's");
     }
 }
